@@ -411,7 +411,7 @@ public final class PooledWaves {
 
     /** The items as they are written, with the pool that they play from. */
     private static final class Program {
-        static final int ENDLESS = Integer.MAX_VALUE;
+        static final int ENDLESS = 0x7fffffff;
 
         final Pool pool = new Pool();
         final int[] kind = new int[MOST_ITEMS];
@@ -481,7 +481,7 @@ public final class PooledWaves {
         }
 
         private void addItem(int itemKind, int n) {
-            if (isFull()) {
+            if (items >= MOST_ITEMS) {
                 return;
             }
             kind[items] = itemKind;
@@ -551,6 +551,7 @@ public final class PooledWaves {
     /** The bytes that were fed, and the token of them that was read the latest. */
     private static final class Tape {
         static final int NAME = 0, NUMBER = 1, SIGN = 2, STOP = 3, NO_TOKEN = 4;
+        private static final int MOST_FIGURES = 2;
 
         final byte[] bytes = new byte[MOST_BYTES];
         int length;
@@ -578,42 +579,34 @@ public final class PooledWaves {
                 start++;
             }
             behind = start;
-            if (start >= length) {
-                kind = STOP;
-            } else if (isLetter(start)) {
-                readName();
-            } else if (isFigure(start)) {
-                readNumber();
-            } else {
-                byte c = bytes[start];
-                kind = c == '(' || c == ')' || c == ';' ? SIGN : NO_TOKEN;
-                behind = start + 1;
-            }
-        }
-
-        private void readName() {
-            kind = NAME;
-            while (behind < length && isLetter(behind)) {
+            kind = start < length ? kindOf(bytes[start]) : STOP;
+            if (kind == NAME || kind == NUMBER) {
+                readOn();
+            } else if (kind != STOP) {
                 behind++;
             }
         }
 
-        private void readNumber() {
+        private void readOn() {
             number = 0;
-            while (behind < length && isFigure(behind)) {
-                // A number that is too long is refused, its value never used: the mask keeps it small.
+            while (behind < length && kindOf(bytes[behind]) == kind) {
+                // The value of a name, of a number that is too long is never used: the mask keeps it small.
                 number = (number * 10 + bytes[behind] - '0') & 0xffff;
                 behind++;
             }
-            kind = behind - start <= 2 ? NUMBER : NO_TOKEN;
+            if (kind == NUMBER && behind - start > MOST_FIGURES) {
+                kind = NO_TOKEN;
+            }
         }
 
-        private boolean isLetter(int i) {
-            return bytes[i] >= 'a' && bytes[i] <= 'z';
-        }
-
-        private boolean isFigure(int i) {
-            return bytes[i] >= '0' && bytes[i] <= '9';
+        private static int kindOf(byte c) {
+            if (c >= 'a' && c <= 'z') {
+                return NAME;
+            }
+            if (c >= '0' && c <= '9') {
+                return NUMBER;
+            }
+            return c == '(' || c == ')' || c == ';' ? SIGN : NO_TOKEN;
         }
 
         boolean isSign(char sign) {
@@ -633,172 +626,172 @@ public final class PooledWaves {
         }
     }
 
-    /** Takes the tokens of a text one by one, each looked at whole before the next is read. */
+    /** Takes the tokens of a text one by one: each is looked at whole before the next is read. */
     private static final class Reader {
         private static final int UNREADABLE = 1, MISPLACED = 2, OUT_OF_BOUNDS = 3, TOO_MANY = 4;
         private static final int TOO_DEEP = 5, WITHOUT_PLAY = 6;
+        /** What may come next: a seg or the go, a level, an item, its number, its sign (, nothing more. */
+        private static final int HEAD = 0, LEVEL = 1, ITEM = 2, ITEM_NUMBER = 3, OPENING = 4, NOTHING = 5;
         /** Each token but the last has a byte or more, so no text has more tokens. */
         private static final int MOST_TOKENS = MOST_BYTES + 1;
 
         final Tape tape;
-        final int[] row = new int[MOST_LEVELS];
         int faultFound;
         int faultPlace;
+        private final int[] row = new int[MOST_LEVELS];
+        private int rowLength;
+        private int itemKind;
+        private int itemNumber;
+        private int state;
 
         Reader(Tape tape) {
             this.tape = tape;
         }
 
+        /** Answers whether it was taken whole. */
         boolean readInto(Program program) {
             program.clear();
-            faultFound = 0;
             tape.rewind();
-            return takeSegments(program) && takeItems(program) && takeStop();
-        }
-
-        private boolean refuse(int found) {
-            faultFound = found;
+            state = HEAD;
+            for (int k = 0; k < MOST_TOKENS; k++) {
+                tape.readToken();
+                faultFound = tape.kind == Tape.NO_TOKEN ? UNREADABLE : take(program);
+                if (faultFound != 0 || tape.kind == Tape.STOP) {
+                    break;
+                }
+            }
             faultPlace = tape.start;
-            return false;
+            return faultFound == 0;
         }
 
-        private boolean next() {
-            tape.readToken();
-            return tape.kind != Tape.NO_TOKEN || refuse(UNREADABLE);
+        /** Answers the fault, 0 if there is none; so do those below. */
+        private int take(Program program) {
+            switch (state) {
+                case HEAD: return takeHead(program.pool);
+                case LEVEL: return takeLevel(program.pool);
+                case ITEM: return takeItem(program);
+                case ITEM_NUMBER: return takeNumber(program);
+                case OPENING: return takeOpening(program);
+                default: return tape.kind == Tape.STOP ? 0 : MISPLACED;
+            }
         }
 
-        private boolean takeSegments(Program program) {
-            for (int k = 0; k < MOST_TOKENS; k++) {
-                if (!next()) {
-                    return false;
-                }
-                if (tape.isName("go")) {
-                    return true;
-                }
-                if (!tape.isName("seg")) {
-                    return refuse(MISPLACED);
-                }
-                if (program.pool.segments >= MOST_SEGMENTS) {
-                    return refuse(TOO_MANY);
-                }
-                if (!takeLevels(program.pool)) {
-                    return false;
-                }
+        private int takeHead(Pool pool) {
+            if (tape.isName("go")) {
+                state = ITEM;
+                return 0;
             }
-            return refuse(MISPLACED);
+            if (!tape.isName("seg")) {
+                return MISPLACED;
+            }
+            if (pool.segments >= MOST_SEGMENTS) {
+                return TOO_MANY;
+            }
+            rowLength = 0;
+            state = LEVEL;
+            return 0;
         }
 
-        private boolean takeLevels(Pool pool) {
-            int n = 0;
-            for (int k = 0; k < MOST_TOKENS; k++) {
-                if (!next()) {
-                    return false;
-                }
-                if (n > 0 && tape.isSign(';')) {
-                    pool.addSegment(row, n);
-                    return true;
-                }
-                if (tape.kind != Tape.NUMBER) {
-                    return refuse(MISPLACED);
-                }
-                if (n >= MOST_LEVELS) {
-                    return refuse(TOO_MANY);
-                }
-                row[n] = tape.number;
-                n++;
-            }
-            return refuse(MISPLACED);
-        }
-
-        private boolean takeItems(Program program) {
-            for (int k = 0; k < MOST_TOKENS; k++) {
-                if (!next()) {
-                    return false;
-                }
-                if (program.open == 0 && tape.isSign(';')) {
-                    return true;
-                }
-                boolean taken = tape.isSign(')') ? takeEnd(program) : takeNamed(program);
-                if (!taken) {
-                    return false;
-                }
-            }
-            return refuse(MISPLACED);
-        }
-
-        private boolean takeEnd(Program program) {
-            if (program.open == 0) {
-                return refuse(MISPLACED);
-            }
-            if (program.isFull()) {
-                return refuse(TOO_MANY);
-            }
-            if (!program.openHasPlay()) {
-                return refuse(WITHOUT_PLAY);
-            }
-            program.addEnd();
-            return true;
-        }
-
-        private boolean takeNamed(Program program) {
-            if (tape.isName("play")) {
-                int most = program.pool.segments - 1;
-                if (!takeNumber(program, 0, most)) {
-                    return false;
-                }
-                program.addPlay(tape.number);
-                return true;
-            }
-            if (tape.isName("mark")) {
-                if (!takeNumber(program, 0, 9)) {
-                    return false;
-                }
-                program.addMark(tape.number);
-                return true;
-            }
-            if (tape.isName("loop")) {
-                return takeNumber(program, 1, 9) && takeOpening(program, LOOP);
-            }
-            if (tape.isName("until")) {
-                return takeNumber(program, 0, TRIGGERS - 1) && takeOpening(program, UNTIL);
-            }
-            return refuse(MISPLACED);
-        }
-
-        /** The name of the item is looked at, too: it is where an item too many is found. */
-        private boolean takeNumber(Program program, int least, int most) {
-            if (program.isFull()) {
-                return refuse(TOO_MANY);
-            }
-            if (!next()) {
-                return false;
+        private int takeLevel(Pool pool) {
+            if (rowLength > 0 && tape.isSign(';')) {
+                pool.addSegment(row, rowLength);
+                state = HEAD;
+                return 0;
             }
             if (tape.kind != Tape.NUMBER) {
-                return refuse(MISPLACED);
+                return MISPLACED;
             }
-            if (tape.number < least || tape.number > most) {
-                return refuse(OUT_OF_BOUNDS);
+            if (rowLength >= MOST_LEVELS) {
+                return TOO_MANY;
             }
-            return true;
+            row[rowLength] = tape.number;
+            rowLength++;
+            return 0;
         }
 
-        private boolean takeOpening(Program program, int kind) {
-            int n = tape.number;
-            if (!next()) {
-                return false;
+        private int takeItem(Program program) {
+            if (tape.isSign(')')) {
+                return takeEnd(program);
             }
+            if (tape.isSign(';') && program.open == 0) {
+                state = NOTHING;
+                return 0;
+            }
+            itemKind = kindNamed();
+            if (itemKind < 0) {
+                return MISPLACED;
+            }
+            if (program.isFull()) {
+                return TOO_MANY;
+            }
+            state = ITEM_NUMBER;
+            return 0;
+        }
+
+        private int kindNamed() {
+            if (tape.isName("play")) {
+                return PLAY;
+            }
+            if (tape.isName("mark")) {
+                return MARK;
+            }
+            if (tape.isName("loop")) {
+                return LOOP;
+            }
+            return tape.isName("until") ? UNTIL : NONE;
+        }
+
+        private int takeEnd(Program program) {
+            if (program.open == 0) {
+                return MISPLACED;
+            }
+            if (program.isFull()) {
+                return TOO_MANY;
+            }
+            if (!program.openHasPlay()) {
+                return WITHOUT_PLAY;
+            }
+            program.addEnd();
+            return 0;
+        }
+
+        private int takeNumber(Program program) {
+            if (tape.kind != Tape.NUMBER) {
+                return MISPLACED;
+            }
+            itemNumber = tape.number;
+            if (itemNumber < (itemKind == LOOP ? 1 : 0) || itemNumber > greatest(program)) {
+                return OUT_OF_BOUNDS;
+            }
+            state = ITEM;
+            if (itemKind == PLAY) {
+                program.addPlay(itemNumber);
+            } else if (itemKind == MARK) {
+                program.addMark(itemNumber);
+            } else {
+                state = OPENING;
+            }
+            return 0;
+        }
+
+        private int greatest(Program program) {
+            switch (itemKind) {
+                case PLAY: return program.pool.segments - 1;
+                case UNTIL: return TRIGGERS - 1;
+                default: return 9;
+            }
+        }
+
+        private int takeOpening(Program program) {
             if (!tape.isSign('(')) {
-                return refuse(MISPLACED);
+                return MISPLACED;
             }
             if (program.isDeepest()) {
-                return refuse(TOO_DEEP);
+                return TOO_DEEP;
             }
-            program.addOpening(kind, n);
-            return true;
-        }
-
-        private boolean takeStop() {
-            return next() && (tape.kind == Tape.STOP || refuse(MISPLACED));
+            program.addOpening(itemKind, itemNumber);
+            state = ITEM;
+            return 0;
         }
     }
 
@@ -902,8 +895,9 @@ public final class PooledWaves {
 
         /** Answers whether it was on. */
         boolean latchOn(int trigger) {
-            boolean was = isOn(trigger);
-            latches |= 1 << trigger;
+            int bit = 1 << trigger;
+            boolean was = (latches & bit) != 0;
+            latches |= bit;
             return was;
         }
 
@@ -951,25 +945,26 @@ public final class PooledWaves {
                     case PLAY:
                         at = i;
                         return;
-                    case END:
-                        i = behindEnd(program, i);
+                    case MARK:
+                        if (log != null) {
+                            log.add(program.number[i], clock);
+                        }
+                        i++;
+                        break;
+                    case LOOP:
+                        turnsDone[i] = 0;
+                        i++;
+                        break;
+                    case UNTIL:
+                        i++;
                         break;
                     default:
-                        pass(program, i, log, clock);
-                        i++;
+                        i = behindEnd(program, i);
                         break;
                 }
             }
             at = NONE;
             phase = 0;
-        }
-
-        private void pass(Program program, int i, MarkLog log, int clock) {
-            if (program.kind[i] == LOOP) {
-                turnsDone[i] = 0;
-            } else if (program.kind[i] == MARK && log != null) {
-                log.add(program.number[i], clock);
-            }
         }
 
         private int behindEnd(Program program, int i) {
@@ -990,13 +985,10 @@ public final class PooledWaves {
 
         /** Answers whether it was on. */
         private boolean latchOff(int trigger) {
-            boolean was = isOn(trigger);
-            latches &= ~(1 << trigger);
+            int bit = 1 << trigger;
+            boolean was = (latches & bit) != 0;
+            latches &= ~bit;
             return was;
-        }
-
-        private boolean isOn(int trigger) {
-            return (latches & (1 << trigger)) != 0;
         }
     }
 

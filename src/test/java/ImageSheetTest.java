@@ -44,7 +44,12 @@ public final class ImageSheetTest {
         x.tick(17);
         x.trigger(2);
         x.trigger(3);
-        x.tick(12);
+        x.tick(8);
+        x.set(9, 6);
+        x.set(8, 1);
+        x.tick(4);
+        check.due("a page is under way", x.player(8) > 0 ? 1 : 0, 1);
+        check.due("marks", x.player(6) > 1 ? 1 : 0, 1);
         x.keep(0);
         String kept = told(x);
         x.tick(30);
@@ -58,6 +63,10 @@ public final class ImageSheetTest {
         x.set(10, 0);
         x.tick(30);
         x.again();
+        x.set(10, 16);
+        x.set(6, 64);
+        x.trigger(2);
+        x.tick(30);
         check.due("back", x.back(0), 29);
         check.due("all is as it was: " + told(x) + " / " + kept, told(x).equals(kept) ? 1 : 0, 1);
         x.tick(30);
@@ -117,7 +126,9 @@ public final class ImageSheetTest {
         x.lay(3, 0, 9);
         x.lay(3, 1, 2);
         check.due("renewed", x.sheet(3, 0, 3), 1);
-        check.due("run", x.run(3, 0, 0, 3), 3);
+        check.due("run of cell 0", x.run(3, 0, 0, 1), 1);
+        check.due("cell 0 is 0", x.trigger(0), 1);
+        check.due("run of the others", x.run(3, 0, 1, 2), 2);
         check.due("trigger 0 alone", x.player(9), 1);
         check.due("trigger 0", x.trigger(0), 1);
         check.due("as the old lane", x.run(3, 1, 0, 1), 0);
@@ -148,7 +159,7 @@ public final class ImageSheetTest {
         }
     }
 
-    /** Which trigger a cell of that value latches; -1: none. */
+    /** Which trigger a cell of that value latches; -1: none; -2: one that there is not. */
     private static int latched(int lane, int v) {
         PooledWaves x = new PooledWaves();
         x.sheet(2, lane, 1);
@@ -162,7 +173,7 @@ public final class ImageSheetTest {
                 return t;
             }
         }
-        return -1;
+        return -2;
     }
 
     private static void runs() {

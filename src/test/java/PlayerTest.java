@@ -14,6 +14,7 @@ public final class PlayerTest {
         manyOuts();
         pages();
         order();
+        fullCache();
         ahead();
         aheadThroughLatches();
         settings();
@@ -30,6 +31,11 @@ public final class PlayerTest {
             check.due("turns(" + i + ")", x.turns(i), -1);
         }
         check.due("turns(1)", x.turns(1), 0);
+        check.due("turns(24) of 24", Check.told("seg 1;go" + " play 0".repeat(24) + ";").turns(24), -1);
+        PooledWaves y = Check.told("seg 1;go play 0 loop 2(play 0);");
+        Check.tell(y, "seg 1;go play 0 loop 2(play 0);");
+        Check.tell(y, "seg 1;go play 0;");
+        check.due("turns of a loop that is gone", y.turns(1), -1);
         check.due("tick(0)", x.tick(0), -1);
         check.due("tick(31)", x.tick(31), -1);
         check.due("tick(-1)", x.tick(-1), -1);
@@ -342,6 +348,32 @@ public final class PlayerTest {
         check.due("in place of the second", x.page(0, 0), 0);
     }
 
+    /** Seven pages and a cache of six. */
+    private static void fullCache() {
+        StringBuilder text = new StringBuilder();
+        for (int i = 0; i < 56; i++) {
+            text.append(i % 16 == 0 ? "seg " : " ").append(i + 10).append(i % 16 == 15 || i == 55 ? ";" : "");
+        }
+        PooledWaves x = Check.swift(text + "go until 0(play 0 play 1 play 2 play 3)play 0;");
+        check.due("pages", x.rule(5), 7);
+        x.tick(11);
+        check.due("place 39", x.tick(30), 49);
+        cache(x, 1, 2, 5, 3, 6, 4);
+        check.due("asked anew", x.page(0, 1), 0);
+        check.due("place 40", x.tick(1), 50);
+        cache(x, 2, 3, 6, 4, 0, 5);
+        check.due("room 4", x.set(8, 4), 6);
+        cache(x, 6, 4, 0, 5);
+    }
+
+    private static void cache(PooledWaves x, int... want) {
+        check.due("pages in the cache", x.player(7), want.length);
+        for (int i = 0; i < want.length; i++) {
+            check.due("page " + i, x.page(i, 0), want[i]);
+        }
+        check.due("no page more", x.page(want.length, 0), -4);
+    }
+
     private static void ahead() {
         String text = "seg 1 2 3 4 5 6 7 8 9 10 11 12;seg 21 22 23 24 25 26 27 28;go play 0 play 1;";
         int[] askedBy = new int[17];
@@ -452,6 +484,9 @@ public final class PlayerTest {
         check.due("sheets stay", x.count(2), 3);
         check.due("clock anew", x.player(2), 0);
         check.due("latency stays", x.rule(9), 0);
+        x.draw(6, 2);
+        check.due("in place of what there was", x.rule(0), 2);
+        check.due("its items", x.rule(4), x.draw(6, 2));
     }
 
     private static int seedNow;

@@ -41,6 +41,16 @@ public final class TextTest {
         Check.feed(x, "seg 1;go play 0;xyz");
         check.due("end(16)", x.end(16), 19);
         check.due("text() of what is left", x.text(), 1);
+        // What stood behind the end is not read.
+        Check.feed(x, "seg 123");
+        x.end(5);
+        check.due("a figure behind the end", x.text(), -15);
+        Check.feed(x, "gone");
+        x.end(2);
+        check.due("a letter behind the end", x.text(), -12);
+        Check.feed(x, "go   ;");
+        x.end(3);
+        check.due("a blank behind the end", x.text(), -13);
     }
 
     private static void taken() {
@@ -78,6 +88,10 @@ public final class TextTest {
         faulty("   ", 2, 3);
         faulty("gogo;", 2, 0);
         faulty("g o;", 2, 0);
+        faulty("ho;", 2, 0);
+        faulty("goz;", 2, 0);
+        faulty("agoa;", 2, 0);
+        faulty("xeg 1;go;", 2, 0);
         faulty("segs 1;go;", 2, 0);
         faulty("play 0;", 2, 0);
         faulty("1", 2, 0);
