@@ -5,6 +5,7 @@ public final class ImageSheetTest {
     public static void main(String[] args) {
         images();
         imageHoldsAll();
+        twoImages();
         sheets();
         lays();
         runs();
@@ -74,6 +75,43 @@ public final class ImageSheetTest {
         check.due("it goes on as it did", told(x).equals(later) ? 1 : 0, 1);
         check.due("back once more", x.back(0), 29);
         check.due("the image has not changed", told(x).equals(kept) ? 1 : 0, 1);
+    }
+
+    /** Two images whose logs and pages have nothing in common, each brought back over the other. */
+    private static void twoImages() {
+        PooledWaves x = Check.told("seg 1 2 3 4 5 6 7 8;seg 11 12 13 14 15 16 17 18;seg 21 22 23 24 25 26 27 28;"
+            + "go until 0(mark 1 play 0 mark 2)until 1(mark 3 play 1 mark 4 play 2);");
+        x.tick(21);
+        x.set(9, 9);
+        x.trigger(0);
+        x.tick(4);
+        check.due("page 1 is under way", x.page(0, 1), 1);
+        check.due("some marks", x.player(6), 5);
+        x.keep(0);
+        String first = told(x);
+        x.again();
+        x.set(6, 64);
+        x.set(9, 0);
+        x.trigger(0);
+        x.tick(25);
+        x.set(9, 8);
+        x.set(8, 1);
+        x.tick(2);
+        check.due("page 2 is under way", x.page(0, 1), 2);
+        check.due("more marks", x.player(6), 14);
+        x.keep(1);
+        String second = told(x);
+        for (int k = 0; k < 2; k++) {
+            check.due("back to the first", x.back(0), 25);
+            check.due("the first: " + told(x) + " / " + first, told(x).equals(first) ? 1 : 0, 1);
+            x.set(6, 50);
+            x.set(7, 1);
+            x.tick(30);
+            check.due("back to the second", x.back(1), 27);
+            check.due("the second: " + told(x) + " / " + second, told(x).equals(second) ? 1 : 0, 1);
+            x.again();
+            x.tick(30);
+        }
     }
 
     private static String told(PooledWaves x) {

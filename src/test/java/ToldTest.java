@@ -109,6 +109,11 @@ public final class ToldTest {
         check.due("the greatest whole", x.whole(), 9 * 9 * 9 * 9 * 16 * 16);
         check.due("plain 15", x.plain(15), 2);
         check.due("plain 9999", x.plain(9999), 9999 % 16 == 15 ? 2 : 1);
+        Check.tell(x, "seg 4;go play 0 play 0;");
+        Check.tell(x, "seg 4;go play 0 play 0;");
+        Check.tell(x, "seg 4;go play 0;");
+        check.due("whole of a shorter one", x.whole(), 1);
+        check.due("plain behind a shorter one", x.plain(1), -4);
         check.due("marks alone", Check.told("go mark 1 mark 2;").whole(), 0);
         check.due("plain of marks alone", Check.told("go mark 1 mark 2;").plain(0), -4);
     }
