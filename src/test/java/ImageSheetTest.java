@@ -1,10 +1,14 @@
+import java.util.Map;
+import java.util.Set;
+import java.util.TreeSet;
+import java.util.function.Consumer;
+
 /** Promises 22 to 28: keep, back, sheet, lay, run, torn, count. */
 public final class ImageSheetTest {
     private static final Check check = new Check();
 
     public static void main(String[] args) {
         images();
-        imageHoldsAll();
         twoImages();
         sheets();
         lays();
@@ -35,60 +39,16 @@ public final class ImageSheetTest {
         check.due("images", x.count(0), 2);
     }
 
-    /** All that can be told of the player is the same behind back(), and goes on in the same way. */
-    private static void imageHoldsAll() {
-        PooledWaves x = Check.told("seg 1 2 3 4 5 6 7 8;seg 11 12 13 14 15 16 17 18;seg 21 22;"
-            + "go loop 3(mark 1 play 0 until 2(play 1)mark 2)until 1(play 2 mark 3);");
-        x.set(8, 2);
-        x.set(6, 21);
-        x.set(7, 1);
-        x.tick(17);
-        x.trigger(2);
-        x.trigger(3);
-        x.tick(8);
-        x.set(9, 6);
-        x.set(8, 1);
-        x.tick(4);
-        check.due("a page is under way", x.player(8) > 0 ? 1 : 0, 1);
-        check.due("marks", x.player(6) > 1 ? 1 : 0, 1);
-        x.keep(0);
-        String kept = told(x);
-        x.tick(30);
-        x.trigger(1);
-        String later = told(x);
-        check.due("something has changed", later.equals(kept) ? 1 : 0, 0);
-        x.set(6, 3);
-        x.set(7, 2);
-        x.set(8, 1);
-        x.set(9, 9);
-        x.set(10, 0);
-        x.tick(30);
-        x.again();
-        x.set(10, 16);
-        x.set(6, 64);
-        x.trigger(2);
-        x.tick(30);
-        check.due("back", x.back(0), 29);
-        check.due("all is as it was: " + told(x) + " / " + kept, told(x).equals(kept) ? 1 : 0, 1);
-        x.tick(30);
-        x.trigger(1);
-        check.due("it goes on as it did", told(x).equals(later) ? 1 : 0, 1);
-        check.due("back once more", x.back(0), 29);
-        check.due("the image has not changed", told(x).equals(kept) ? 1 : 0, 1);
-    }
-
-    /** Two images whose logs and pages have nothing in common, each brought back over the other. */
-    private static void twoImages() {
-        PooledWaves x = Check.told("seg 1 2 3 4 5 6 7 8;seg 11 12 13 14 15 16 17 18;seg 21 22 23 24 25 26 27 28;"
+    private static void first(PooledWaves x) {
+        Check.tell(x, "seg 1 2 3 4 5 6 7 8;seg 11 12 13 14 15 16 17 18;seg 21 22 23 24 25 26 27 28;"
             + "go until 0(mark 1 play 0 mark 2)until 1(mark 3 play 1 mark 4 play 2);");
         x.tick(21);
         x.set(9, 9);
         x.trigger(0);
         x.tick(4);
-        check.due("page 1 is under way", x.page(0, 1), 1);
-        check.due("some marks", x.player(6), 5);
-        x.keep(0);
-        String first = told(x);
+    }
+
+    private static void second(PooledWaves x) {
         x.again();
         x.set(6, 64);
         x.set(9, 0);
@@ -97,44 +57,40 @@ public final class ImageSheetTest {
         x.set(9, 8);
         x.set(8, 1);
         x.tick(2);
-        check.due("page 2 is under way", x.page(0, 1), 2);
-        check.due("more marks", x.player(6), 14);
-        x.keep(1);
-        String second = told(x);
-        for (int k = 0; k < 2; k++) {
-            check.due("back to the first", x.back(0), 25);
-            check.due("the first: " + told(x) + " / " + first, told(x).equals(first) ? 1 : 0, 1);
-            x.set(6, 50);
-            x.set(7, 1);
-            x.tick(30);
-            check.due("back to the second", x.back(1), 27);
-            check.due("the second: " + told(x) + " / " + second, told(x).equals(second) ? 1 : 0, 1);
-            x.again();
-            x.tick(30);
-        }
     }
 
-    private static String told(PooledWaves x) {
-        StringBuilder s = new StringBuilder();
-        for (int what = 0; what < 10; what++) {
-            s.append(x.player(what)).append(' ');
+    /** Two images whose logs and pages have nothing in common, each brought back over the other. */
+    private static void twoImages() {
+        Consumer<PooledWaves> toFirst = ImageSheetTest::first;
+        Consumer<PooledWaves> toSecond = toFirst.andThen(x -> x.keep(0)).andThen(ImageSheetTest::second);
+        Consumer<PooledWaves> both = toSecond.andThen(x -> x.keep(1));
+        PooledWaves x = Check.made(toFirst);
+        check.due("page 1 is under way", x.page(0, 1), 1);
+        check.due("some marks", x.player(6), 5);
+        x = Check.made(both);
+        check.due("page 2 is under way", x.page(0, 1), 2);
+        check.due("more marks", x.player(6), 14);
+        check.due("back to the first", x.back(0), 25);
+        check.due("back to the second", x.back(1), 27);
+        Map<String, Integer> first = Questions.answers(toFirst);
+        Map<String, Integer> second = Questions.answers(toSecond);
+        Consumer<PooledWaves> there = both.andThen(y -> y.back(0));
+        Consumer<PooledWaves> goneOn = there.andThen(y -> y.set(6, 50)).andThen(y -> y.tick(30));
+        playerIs("the first", there, first);
+        playerIs("the second", goneOn.andThen(y -> y.back(1)), second);
+        playerIs("the first again", goneOn.andThen(y -> y.back(1)).andThen(y -> y.again()).andThen(y -> y.tick(30))
+            .andThen(y -> y.back(0)), first);
+    }
+
+    /** All but the images themselves, that were not all there when it was kept. */
+    private static void playerIs(String title, Consumer<PooledWaves> history, Map<String, Integer> want) {
+        Set<String> but = new TreeSet<>();
+        for (String question : want.keySet()) {
+            if (question.startsWith("image") || question.equals("count 0")) {
+                but.add(question);
+            }
         }
-        for (int what = 6; what <= 10; what++) {
-            s.append(x.rule(what)).append(' ');
-        }
-        for (int i = 0; i < x.rule(4); i++) {
-            s.append(x.turns(i)).append(' ');
-        }
-        for (int i = 0; i < 40; i++) {
-            s.append(x.marked(i, 0)).append('@').append(x.marked(i, 1)).append(' ');
-        }
-        for (int i = 0; i < 16; i++) {
-            s.append(x.page(i, 0)).append('/').append(x.page(i, 1)).append('@').append(x.page(i, 2)).append(' ');
-        }
-        for (int i = 0; i < 200; i++) {
-            s.append(x.out(i)).append(' ');
-        }
-        return s.toString();
+        check.same(title, Questions.answers(history), want, but);
     }
 
     private static void sheets() {

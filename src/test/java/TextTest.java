@@ -54,131 +54,131 @@ public final class TextTest {
     }
 
     private static void taken() {
-        takes("go;", 0);
-        takes("  go  ;  ", 0);
-        takes("seg 1;go;", 0);
-        takes("seg1;go play0mark1loop2(play0)until3(play0);", 8);
-        takes("seg 1 ; go loop 9 ( play 00 ) mark 09 loop 01(play 0);", 7);
-        takes("seg 0 99 00 07;go play 0;", 1);
-        takes("seg" + " 1".repeat(16) + ";go;", 0);
-        takes("seg 1;".repeat(8) + "go play 7;", 1);
-        takes("seg 1;go" + " play 0".repeat(24) + ";", 24);
-        takes("seg 1;go loop 1(until 0(loop 1(until 3(play 0))));", 9);
-        takes("seg 1;go loop 1(mark 1 loop 1(play 0)mark 2);", 6 + 1);
+        check.takes("go;", 0);
+        check.takes("  go  ;  ", 0);
+        check.takes("seg 1;go;", 0);
+        check.takes("seg1;go play0mark1loop2(play0)until3(play0);", 8);
+        check.takes("seg 1 ; go loop 9 ( play 00 ) mark 09 loop 01(play 0);", 7);
+        check.takes("seg 0 99 00 07;go play 0;", 1);
+        check.takes("seg" + " 1".repeat(16) + ";go;", 0);
+        check.takes("seg 1;".repeat(8) + "go play 7;", 1);
+        check.takes("seg 1;go" + " play 0".repeat(24) + ";", 24);
+        check.takes("seg 1;go loop 1(until 0(loop 1(until 3(play 0))));", 9);
+        check.takes("seg 1;go loop 1(mark 1 loop 1(play 0)mark 2);", 6 + 1);
     }
 
     private static void unreadable() {
-        faulty(".", 1, 0);
-        faulty("seg 1.go;", 1, 5);
-        faulty("seg 1 Go;", 1, 6);
-        faulty("\tgo;", 1, 0);
-        faulty("seg 100;", 1, 4);
-        faulty("seg 1 000 go;", 1, 6);
-        faulty("seg 1" + "2".repeat(200) + ";", 1, 4);
-        faulty("go;{", 1, 3);
-        faulty("go; 123", 1, 4);
-        faulty("go\u0000;", 1, 2);
-        faulty("go`;", 1, 2);
-        faulty("go/;", 1, 2);
-        faulty("go:;", 1, 2);
+        check.faulty(".", 1, 0);
+        check.faulty("seg 1.go;", 1, 5);
+        check.faulty("seg 1 Go;", 1, 6);
+        check.faulty("\tgo;", 1, 0);
+        check.faulty("seg 100;", 1, 4);
+        check.faulty("seg 1 000 go;", 1, 6);
+        check.faulty("seg 1" + "2".repeat(200) + ";", 1, 4);
+        check.faulty("go;{", 1, 3);
+        check.faulty("go; 123", 1, 4);
+        check.faulty("go\u0000;", 1, 2);
+        check.faulty("go`;", 1, 2);
+        check.faulty("go/;", 1, 2);
+        check.faulty("go:;", 1, 2);
     }
 
     private static void misplaced() {
-        faulty("", 2, 0);
-        faulty("   ", 2, 3);
-        faulty("gogo;", 2, 0);
-        faulty("g o;", 2, 0);
-        faulty("ho;", 2, 0);
-        faulty("goz;", 2, 0);
-        faulty("agoa;", 2, 0);
-        faulty("xeg 1;go;", 2, 0);
-        faulty("segs 1;go;", 2, 0);
-        faulty("play 0;", 2, 0);
-        faulty("1", 2, 0);
-        faulty("seg", 2, 3);
-        faulty("seg ;go;", 2, 4);
-        faulty("seg a;go;", 2, 4);
-        faulty("seg 1", 2, 5);
-        faulty("seg 1 (;", 2, 6);
-        faulty("seg 1 seg 2;", 2, 6);
-        faulty("seg 1;", 2, 6);
-        faulty("seg 1;;go;", 2, 6);
-        faulty("go", 2, 2);
-        faulty("go  ", 2, 4);
-        faulty("go 1;", 2, 3);
-        faulty("go (;", 2, 3);
-        faulty("go );", 2, 3);
-        faulty("go seg 1;", 2, 3);
-        faulty("go plays 0;", 2, 3);
-        faulty("go pla 0;", 2, 3);
-        faulty("seg 1;go play;", 2, 13);
-        faulty("seg 1;go play play;", 2, 14);
-        faulty("seg 1;go mark(;", 2, 13);
-        faulty("seg 1;go loop(play 0);", 2, 13);
-        faulty("seg 1;go loop 2 play 0;", 2, 16);
-        faulty("seg 1;go loop 2;", 2, 15);
-        faulty("seg 1;go loop 2)", 2, 15);
-        faulty("seg 1;go until 2", 2, 16);
-        faulty("seg 1;go loop 2(play 0;", 2, 22);
-        faulty("seg 1;go loop 2(play 0", 2, 22);
-        faulty("seg 1;go loop 2(play 0));", 2, 23);
-        faulty("seg 1;go play 0 0;", 2, 16);
-        faulty("go;;", 2, 3);
-        faulty("go;go;", 2, 3);
-        faulty("go; 1", 2, 4);
-        faulty("go; )", 2, 4);
+        check.faulty("", 2, 0);
+        check.faulty("   ", 2, 3);
+        check.faulty("gogo;", 2, 0);
+        check.faulty("g o;", 2, 0);
+        check.faulty("ho;", 2, 0);
+        check.faulty("goz;", 2, 0);
+        check.faulty("agoa;", 2, 0);
+        check.faulty("xeg 1;go;", 2, 0);
+        check.faulty("segs 1;go;", 2, 0);
+        check.faulty("play 0;", 2, 0);
+        check.faulty("1", 2, 0);
+        check.faulty("seg", 2, 3);
+        check.faulty("seg ;go;", 2, 4);
+        check.faulty("seg a;go;", 2, 4);
+        check.faulty("seg 1", 2, 5);
+        check.faulty("seg 1 (;", 2, 6);
+        check.faulty("seg 1 seg 2;", 2, 6);
+        check.faulty("seg 1;", 2, 6);
+        check.faulty("seg 1;;go;", 2, 6);
+        check.faulty("go", 2, 2);
+        check.faulty("go  ", 2, 4);
+        check.faulty("go 1;", 2, 3);
+        check.faulty("go (;", 2, 3);
+        check.faulty("go );", 2, 3);
+        check.faulty("go seg 1;", 2, 3);
+        check.faulty("go plays 0;", 2, 3);
+        check.faulty("go pla 0;", 2, 3);
+        check.faulty("seg 1;go play;", 2, 13);
+        check.faulty("seg 1;go play play;", 2, 14);
+        check.faulty("seg 1;go mark(;", 2, 13);
+        check.faulty("seg 1;go loop(play 0);", 2, 13);
+        check.faulty("seg 1;go loop 2 play 0;", 2, 16);
+        check.faulty("seg 1;go loop 2;", 2, 15);
+        check.faulty("seg 1;go loop 2)", 2, 15);
+        check.faulty("seg 1;go until 2", 2, 16);
+        check.faulty("seg 1;go loop 2(play 0;", 2, 22);
+        check.faulty("seg 1;go loop 2(play 0", 2, 22);
+        check.faulty("seg 1;go loop 2(play 0));", 2, 23);
+        check.faulty("seg 1;go play 0 0;", 2, 16);
+        check.faulty("go;;", 2, 3);
+        check.faulty("go;go;", 2, 3);
+        check.faulty("go; 1", 2, 4);
+        check.faulty("go; )", 2, 4);
     }
 
     private static void outOfBounds() {
-        faulty("go play 0;", 3, 8);
-        faulty("seg 1;go play 1;", 3, 14);
-        faulty("seg 1;seg 2;go play 99;", 3, 20);
-        faulty("go mark 10;", 3, 8);
-        faulty("go loop 0(", 3, 8);
-        faulty("go loop 10(", 3, 8);
-        faulty("go until 4(", 3, 9);
+        check.faulty("go play 0;", 3, 8);
+        check.faulty("seg 1;go play 1;", 3, 14);
+        check.faulty("seg 1;seg 2;go play 99;", 3, 20);
+        check.faulty("go mark 10;", 3, 8);
+        check.faulty("go loop 0(", 3, 8);
+        check.faulty("go loop 10(", 3, 8);
+        check.faulty("go until 4(", 3, 9);
     }
 
     private static void tooMany() {
-        faulty("seg" + " 1".repeat(17) + ";go;", 4, 36);
-        faulty("seg 1;".repeat(8) + "seg 1;go;", 4, 48);
-        faulty("seg 1;".repeat(8) + " seg", 4, 49);
-        faulty("seg 1;go" + " play 0".repeat(25) + ";", 4, 8 + 24 * 7 + 1);
-        faulty("go" + " mark 1".repeat(24) + " loop", 4, 2 + 24 * 7 + 1);
-        faulty("seg 1;go loop 1(" + "play 0 ".repeat(23) + ")", 4, 16 + 23 * 7);
-        faulty("go" + " mark 1".repeat(24) + " mark 77", 4, 2 + 24 * 7 + 1);
+        check.faulty("seg" + " 1".repeat(17) + ";go;", 4, 36);
+        check.faulty("seg 1;".repeat(8) + "seg 1;go;", 4, 48);
+        check.faulty("seg 1;".repeat(8) + " seg", 4, 49);
+        check.faulty("seg 1;go" + " play 0".repeat(25) + ";", 4, 8 + 24 * 7 + 1);
+        check.faulty("go" + " mark 1".repeat(24) + " loop", 4, 2 + 24 * 7 + 1);
+        check.faulty("seg 1;go loop 1(" + "play 0 ".repeat(23) + ")", 4, 16 + 23 * 7);
+        check.faulty("go" + " mark 1".repeat(24) + " mark 77", 4, 2 + 24 * 7 + 1);
     }
 
     private static void tooDeep() {
-        faulty("seg 1;go loop 1(loop 1(until 1(loop 1(until 1(", 5, 45);
-        faulty("seg 1;go loop 1(loop 1(until 1(loop 1(play 0 loop 1 (play 0))", 5, 52);
-        takes("seg 1;go loop 1(loop 1(loop 1(loop 1(play 0)loop 1(play 0))));", 12);
+        check.faulty("seg 1;go loop 1(loop 1(until 1(loop 1(until 1(", 5, 45);
+        check.faulty("seg 1;go loop 1(loop 1(until 1(loop 1(play 0 loop 1 (play 0))", 5, 52);
+        check.takes("seg 1;go loop 1(loop 1(loop 1(loop 1(play 0)loop 1(play 0))));", 12);
         // A 25th item is found at its name, ahead of a depth that would be found at its sign.
-        faulty("seg 1;go" + " mark 1".repeat(20) + "loop 1(loop 1(loop 1(loop 1(loop 1(", 4,
+        check.faulty("seg 1;go" + " mark 1".repeat(20) + "loop 1(loop 1(loop 1(loop 1(loop 1(", 4,
             8 + 20 * 7 + 28);
     }
 
     private static void withoutPlay() {
-        faulty("go loop 1()", 6, 10);
-        faulty("go until 1(mark 3 )", 6, 18);
-        faulty("seg 1;go play 0 loop 1()", 6, 23);
-        faulty("seg 1;go loop 1(play 0 until 0())", 6, 31);
-        faulty("seg 1;go loop 1(loop 2(play 0)mark 1)until 1()", 6, 45);
-        faulty("seg 1;go until 0(loop 2(play 0) loop 2(mark 1))", 6, 45);
+        check.faulty("go loop 1()", 6, 10);
+        check.faulty("go until 1(mark 3 )", 6, 18);
+        check.faulty("seg 1;go play 0 loop 1()", 6, 23);
+        check.faulty("seg 1;go loop 1(play 0 until 0())", 6, 31);
+        check.faulty("seg 1;go loop 1(loop 2(play 0)mark 1)until 1()", 6, 45);
+        check.faulty("seg 1;go until 0(loop 2(play 0) loop 2(mark 1))", 6, 45);
         // An endless part in it is a PLAY in it.
-        takes("seg 1;go loop 1(until 1(play 0));", 5);
+        check.takes("seg 1;go loop 1(until 1(play 0));", 5);
     }
 
     private static void firstOfTwo() {
         // Too long and misplaced: unreadable. A 25th ) that has no play: too many.
-        faulty("go 123", 1, 3);
-        faulty("seg" + " 1".repeat(16) + " 123;", 1, 36);
-        faulty("go" + " mark 1".repeat(23) + "loop 1()", 4, 2 + 23 * 7 + 7);
-        faulty("go" + " mark 1".repeat(24) + ")", 2, 2 + 24 * 7);
-        faulty("go" + " mark 1".repeat(24) + "x", 2, 2 + 24 * 7);
+        check.faulty("go 123", 1, 3);
+        check.faulty("seg" + " 1".repeat(16) + " 123;", 1, 36);
+        check.faulty("go" + " mark 1".repeat(23) + "loop 1()", 4, 2 + 23 * 7 + 7);
+        check.faulty("go" + " mark 1".repeat(24) + ")", 2, 2 + 24 * 7);
+        check.faulty("go" + " mark 1".repeat(24) + "x", 2, 2 + 24 * 7);
         // The first token is looked at whole before the next one is read.
-        faulty("go loop 0 .", 3, 8);
-        faulty("go play 0 .", 3, 8);
+        check.faulty("go loop 0 .", 3, 8);
+        check.faulty("go play 0 .", 3, 8);
     }
 
     private static void aFaultChangesNothing() {
@@ -210,22 +210,5 @@ public final class TextTest {
         check.due("one mark", x.player(6), 1);
         check.due("the mark", x.marked(0, 0), 3);
         check.due("latency stays", x.rule(9), 0);
-    }
-
-    private static void takes(String text, int items) {
-        PooledWaves x = new PooledWaves();
-        Check.tell(x, "oh");
-        check.due("text() of '" + text + "'", Check.tell(x, text), items);
-        check.due("fault() of '" + text + "'", x.fault(), 0);
-        check.due("tape behind '" + text + "'", x.count(1), 0);
-        check.due("items of '" + text + "'", x.rule(4), items);
-    }
-
-    private static void faulty(String text, int fault, int place) {
-        PooledWaves x = new PooledWaves();
-        check.due("text() of '" + text + "'", Check.tell(x, text), -10 - place);
-        check.due("fault() of '" + text + "'", x.fault(), fault);
-        check.due("tape behind '" + text + "'", x.count(1), 0);
-        check.due("items behind '" + text + "'", x.rule(4), 0);
     }
 }

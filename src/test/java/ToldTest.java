@@ -5,7 +5,7 @@ public final class ToldTest {
     public static void main(String[] args) {
         sharedPool();
         leastPlace();
-        fullPool();
+        drawnPools();
         items();
         wrongInputs();
         unfolded();
@@ -37,8 +37,7 @@ public final class ToldTest {
         check.due("9 levels", Check.told("seg 1 2 3 4 5 6 7 8 9;go;").rule(5), 2);
     }
 
-    private static void fullPool() {
-        // Eight segments of 16 levels do not fit on one tape: they are drawn.
+    private static void drawnPools() {
         for (int seed = 0; seed < 300; seed++) {
             PooledWaves x = new PooledWaves();
             x.draw(seed, 8);
