@@ -45,6 +45,22 @@ public final class RandomRunsTest {
     }
 
     private static void tellText() {
+        StringBuilder text = random.nextInt(5) == 0 ? wideText() : anyText();
+        if (random.nextInt(4) == 0) {
+            spoil(text);
+        }
+        if (calls + text.length() > 480) {
+            anyCall();
+            return;
+        }
+        for (int i = 0; i < text.length(); i++) {
+            due("feed", x.feed(text.charAt(i)), m.feed(text.charAt(i)));
+        }
+        due("text() of " + text, x.text(), m.text());
+        due("fault() of " + text, x.fault(), m.fault);
+    }
+
+    private static StringBuilder anyText() {
         StringBuilder text = new StringBuilder();
         int segments = random.nextInt(10) == 0 ? upTo(9) : 1 + upTo(3);
         int most = random.nextInt(3) == 0 ? 99 : 3;
@@ -58,19 +74,25 @@ public final class RandomRunsTest {
         }
         text.append("go ");
         items(text, 0, Math.max(1, segments), 1 + upTo(random.nextInt(4) == 0 ? 24 : 5));
-        text.append(';');
-        if (random.nextInt(4) == 0) {
-            spoil(text);
+        return text.append(';');
+    }
+
+    /** As many levels as the tape has room for, up to a few bytes more than it has. */
+    private static StringBuilder wideText() {
+        StringBuilder text = new StringBuilder();
+        int segments = 4 + upTo(4);
+        int longest = 8 + upTo(8);
+        for (int s = 0; s < segments; s++) {
+            text.append("seg");
+            for (int i = longest - upTo(2); i > 0; i--) {
+                text.append(upTo(9)).append(i > 1 ? " " : ";");
+            }
         }
-        if (calls + text.length() > 480) {
-            anyCall();
-            return;
+        text.append(random.nextBoolean() ? "go until0(" : "go loop9(");
+        for (int k = upTo(22); k > 0 && text.length() < 288; k--) {
+            text.append(random.nextInt(4) == 0 ? "mark" : "play").append(upTo(segments - 1));
         }
-        for (int i = 0; i < text.length(); i++) {
-            due("feed", x.feed(text.charAt(i)), m.feed(text.charAt(i)));
-        }
-        due("text() of " + text, x.text(), m.text());
-        due("fault() of " + text, x.fault(), m.fault);
+        return text.append("play0);");
     }
 
     private static void items(StringBuilder text, int depth, int segments, int n) {
